@@ -131,7 +131,19 @@ public final class CountTest {
         Check.due("inversions()", x.inversions(), 2);
         x.advance(600);
         Check.due("inversions()", x.inversions(), 2);
+        theFirstTransactionBehind();
         equalTimestamps();
+    }
+
+    private static void theFirstTransactionBehind() {
+        CommitWaitStore x = new CommitWaitStore();
+        int first = x.begin(1);
+        x.synchronize(0, 400);
+        Check.due("commit", x.commit(x.begin(0)), 405);
+        x.synchronize(0, 500);
+        x.advance(1);
+        Check.due("commit", x.commit(first), 7);
+        Check.due("inversions()", x.inversions(), 1);
     }
 
     private static void equalTimestamps() {

@@ -147,6 +147,9 @@ public final class SnapshotTest {
         Check.due("the least safe time", x.safeTime(), 0);
         x.synchronize(2, 100);
         Check.due("safeTime()", x.safeTime(), 4);
+        x.synchronize(1, -3);
+        Check.due("another server that is behind", x.safeTime(), 1);
+        x.synchronize(1, 0);
         x.advance(50);
         Check.due("safeTime()", x.safeTime(), 55);
         int a = Check.writer(x, 0, 0, 1);

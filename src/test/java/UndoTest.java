@@ -5,6 +5,7 @@ public final class UndoTest {
         whatIsNotUndoable();
         sixStates();
         allOfTheState();
+        twoPasts();
         slots();
         slotsAndUndo();
         throwingCallsChangeNothing();
@@ -128,12 +129,41 @@ public final class UndoTest {
         }
         Check.due("the store after five undos", Check.stateOf(x), busy);
         Check.due("begin", x.begin(2), 4);
+        Check.due("a new transaction is open", x.state(4), CommitWaitStore.OPEN);
         Check.due("a new transaction has nothing of the undone one", x.timestamp(4), CommitWaitStore.NONE);
         Check.due("requestTime", x.requestTime(4), CommitWaitStore.NONE);
         Check.due("bufferedValue", x.bufferedValue(4, 0), CommitWaitStore.NONE);
         x.advance(900);
         x.restore(0);
         Check.due("the store after the restore", Check.stateOf(x), busy);
+    }
+
+    /** Two pasts with the same numbers of transactions and versions are not mixed up. */
+    private static void twoPasts() {
+        CommitWaitStore x = new CommitWaitStore();
+        x.setUncertainty(1, 20, 0);
+        x.commit(Check.writer(x, 0, 6, 60));
+        x.advance(50);
+        x.begin(2);
+        x.save(0);
+        for (int i = 0; i < 5; i++) {
+            x.undo();
+        }
+        Check.due("transactions()", x.transactions(), 0);
+        x.commit(Check.writer(x, 1, 6, 61));
+        x.advance(60);
+        x.begin(1);
+        x.save(1);
+        Check.due("valueAt", x.valueAt(6, 20), 61);
+        Check.due("ifCommitted", x.ifCommitted(1), 80);
+        x.restore(0);
+        Check.due("versionTimestamp", x.versionTimestamp(6, 1), 5);
+        Check.due("valueAt", x.valueAt(6, 20), 60);
+        Check.due("ifCommitted", x.ifCommitted(1), 56);
+        x.restore(1);
+        Check.due("versionTimestamp", x.versionTimestamp(6, 1), 20);
+        Check.due("valueAt", x.valueAt(6, 20), 61);
+        Check.due("ifCommitted", x.ifCommitted(1), 80);
     }
 
     private static void slots() {
