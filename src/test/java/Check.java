@@ -21,9 +21,28 @@ final class Check {
     static final int MOST = Integer.MAX_VALUE;
     static final int LEAST = Integer.MIN_VALUE;
 
+    private static final int MOST_SECONDS = 300;
+
     private static int wrong = 0;
 
+    static {
+        // A call that does not end would leave the test without an answer for ever.
+        Thread watch = new Thread(Check::stopLate);
+        watch.setDaemon(true);
+        watch.start();
+    }
+
     private Check() {
+    }
+
+    private static void stopLate() {
+        try {
+            Thread.sleep(1000L * MOST_SECONDS);
+        } catch (InterruptedException early) {
+            return;
+        }
+        System.out.println("a call does not end");
+        Runtime.getRuntime().halt(1);
     }
 
     static void due(String call, long got, long want) {

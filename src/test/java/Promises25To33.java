@@ -389,5 +389,15 @@ final class Promises25To33 {
             // Now it is one less than the tick, but for each tenth tick.
             Check.due("ticksToCommit of a fast clock", x.ticksToCommit(0), 9);
         });
+        s.says("Returns the number of ticks,", x -> {
+            // The earliest time is 4 at 9, and 6 at 10.
+            x.setUncertainty(0, 5, 0);
+            x.setDrift(0, 100);
+            Check.due("commit", x.commit(x.begin(0)), 5);
+            for (int ticks = 10; ticks >= 1; ticks--) {
+                Check.due("ticksToCommit", x.ticksToCommit(0), ticks);
+                Check.due("advance(1)", x.advance(1), ticks == 1 ? 1 : 0);
+            }
+        });
     }
 }

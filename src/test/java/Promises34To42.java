@@ -17,6 +17,7 @@ final class Promises34To42 {
         safeTime(s);
         readFloor(s);
         ticksUntilSafe(s);
+        ticksUntilSafeOfWaiting(s);
         ticksUntilSafeAnswers(s);
     }
 
@@ -415,6 +416,28 @@ final class Promises34To42 {
         });
     }
 
+    private static void ticksUntilSafeOfWaiting(Sentences s) {
+        s.says("(waiting transactions become committed meanwhile,", x -> {
+            for (int i = 0; i < 40; i++) {
+                x.begin(0);
+            }
+            x.commit(39);
+            Check.due("ticksUntilSafe(5), the last transaction waits", x.ticksUntilSafe(5), 12);
+            x.undo();
+            Check.due("ticksUntilSafe(5), it is open again", x.ticksUntilSafe(5), 1);
+            x.commit(0);
+            Check.due("ticksUntilSafe(5), the first transaction waits", x.ticksUntilSafe(5), 12);
+        });
+        s.says("(waiting transactions become committed meanwhile,", x -> {
+            x.commit(x.begin(0));
+            x.undo();
+            x.undo();
+            Check.due("ticksUntilSafe(5), the one that waited is undone", x.ticksUntilSafe(5), 1);
+            x.abort(x.begin(0));
+            Check.due("ticksUntilSafe(5), one is aborted", x.ticksUntilSafe(5), 1);
+        });
+    }
+
     private static void ticksUntilSafeAnswers(Sentences s) {
         s.says("Returns the smallest number n of ticks, 0 to 10000, after which the timestamp is at most the safe time;", x -> {
             // The latest time after n ticks is n + 5 + n / 500, rounded up.
@@ -432,6 +455,21 @@ final class Promises34To42 {
             x.setUncertainty(2, 500, 0);
             int[] at = {0, 1, 2, 9, 10, 11, 12, 13, 14};
             int[] due = {0, 1, 2, 9, 10, 10, 11, 11, 12};
+            for (int i = 0; i < at.length; i++) {
+                Check.due("ticksUntilSafe(" + at[i] + ")", x.ticksUntilSafe(at[i]), due[i]);
+            }
+        });
+        s.says("Returns the smallest number n of ticks,", x -> {
+            // Offset and uncertainty rise at the same tick: the latest time is 11 at 10, and 14 at 11.
+            x.setUncertainty(0, 0, 100);
+            x.setUncertainty(1, 500, 0);
+            x.setUncertainty(2, 500, 0);
+            x.advance(1);
+            x.setDrift(0, 100);
+            x.advance(9);
+            Check.due("latest(0)", x.latest(0), 11);
+            int[] at = {10, 11, 12, 13, 14, 22, 23, 24, 25, 26};
+            int[] due = {0, 1, 1, 1, 2, 10, 11, 11, 11, 12};
             for (int i = 0; i < at.length; i++) {
                 Check.due("ticksUntilSafe(" + at[i] + ")", x.ticksUntilSafe(at[i]), due[i]);
             }

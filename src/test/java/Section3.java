@@ -87,6 +87,24 @@ final class Section3 {
             x.advance(1000);
             Check.due("state after 1000 ticks", x.state(t), CommitWaitStore.OPEN);
         });
+        s.says("It is open when it begins.", x -> {
+            // Nothing is left of an undone transaction of the same number.
+            int undone = Check.reader(x, 0, 0);
+            x.write(undone, 7, 1);
+            x.commit(undone);
+            x.advance(12);
+            for (int i = 0; i < 5; i++) {
+                x.undo();
+            }
+            int t = x.begin(1);
+            Check.due("begin", t, undone);
+            Check.due("state", x.state(t), CommitWaitStore.OPEN);
+            Check.due("timestamp", x.timestamp(t), NONE);
+            Check.due("requestTime", x.requestTime(t), NONE);
+            Check.due("commitTime", x.commitTime(t), NONE);
+            Check.due("recordedTimestamp", x.recordedTimestamp(t, 0), NONE);
+            Check.due("bufferedValue", x.bufferedValue(t, 7), NONE);
+        });
     }
 
     private static void writing(Sentences s) {

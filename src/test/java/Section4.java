@@ -535,6 +535,7 @@ final class Section4 {
             x.setDrift(0, 100);
             x.commit(x.begin(0));
             Check.due("advance(1000)", x.advance(1000), 1);
+            Check.due("commitTime(0)", x.commitTime(0), 10);
             Check.due("isSound(0) at the end", x.isSound(0), false);
             Check.due("unsoundUses()", x.unsoundUses(), 0);
             // Unsound at the request and at the commit, and sound at the end of the call.
@@ -543,6 +544,7 @@ final class Section4 {
             x.commit(x.begin(1));
             Check.due("unsoundUses() of the request", x.unsoundUses(), 1);
             Check.due("advance(1000)", x.advance(1000), 1);
+            Check.due("commitTime(1)", x.commitTime(1), 1002);
             Check.due("isSound(1) at the end", x.isSound(1), true);
             Check.due("unsoundUses() of the commit", x.unsoundUses(), 2);
         });

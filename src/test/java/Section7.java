@@ -21,6 +21,38 @@ final class Section7 {
         return x;
     }
 
+    /** All eight keys get a version at the timestamp 5 + offset, by the server; then all of it is undone. */
+    private static void savedPast(CommitWaitStore x, int slot, int server, int offset) {
+        x.synchronize(server, offset);
+        Check.due("runText()", x.runText(), 11);
+        Check.due("commitTime", x.commitTime(0), 12);
+        x.save(slot);
+        x.undo();
+        x.undo();
+        Check.due("transactions()", x.transactions(), 0);
+    }
+
+    /** Two pasts that differ in nothing but numbers are not mixed up. */
+    private static void twoPasts(CommitWaitStore x) {
+        Check.append(x, "b0;w0,0,1;w0,1,2;w0,2,3;w0,3,4;w0,4,5;w0,5,6;w0,6,7;w0,7,8;c0;t12");
+        savedPast(x, 0, 0, 0);
+        x.clearText();
+        Check.append(x, "b1;w0,0,9;w0,1,8;w0,2,7;w0,3,6;w0,4,5;w0,5,4;w0,6,3;w0,7,2;c0;t12");
+        savedPast(x, 1, 1, 50);
+        for (int slot = 1; slot >= 0; slot--) {
+            x.restore(slot);
+            for (int key = 0; key < 8; key++) {
+                Check.due("versionTimestamp", x.versionTimestamp(key, 1), 5 + 50 * slot);
+                Check.due("valueAt", x.valueAt(key, 100), slot == 0 ? 1 + key : 9 - key);
+                Check.due("bufferedValue", x.bufferedValue(0, key), slot == 0 ? 1 + key : 9 - key);
+            }
+            x.begin(2);
+            x.undo();
+            Check.due("timestamp", x.timestamp(0), 5 + 50 * slot);
+            Check.due("valueAt after undo()", x.valueAt(7, 100), slot == 0 ? 8 : 2);
+        }
+    }
+
     /** A change that is taken back, by undo() or from a slot, leaves nothing behind for the time to come. */
     private static void takenBack(String change, Check.CallOn call) {
         CommitWaitStore plain = busyWithOneMore();
@@ -73,6 +105,7 @@ final class Section7 {
                 Check.due("valueAt, key " + key, x.valueAt(key, Check.MOST), 0);
             }
         });
+        s.says("the versions,", Section7::twoPasts);
         s.says("the transactions with all that is known of them,", x -> {
             takenBack("begin", y -> y.begin(2));
             takenBack("write", y -> y.write(1, 7, 9));
@@ -81,6 +114,33 @@ final class Section7 {
             takenBack("commit", y -> y.commit(4));
             takenBack("commit after other commands", y -> Check.executed(y, "b1;r5,7;w5,6,6;c5;t20"));
             takenBack("abort", y -> y.abort(1));
+        });
+        s.says("the transactions with all that is known of them,", x -> {
+            // The same number, another server and another read key in each of three pasts.
+            for (int server = 0; server < 3; server++) {
+                x.synchronize(server, 100 * server);
+            }
+            x.read(x.begin(0), 0);
+            x.save(0);
+            x.undo();
+            x.undo();
+            x.read(x.begin(1), 1);
+            x.save(1);
+            x.undo();
+            x.undo();
+            x.read(x.begin(2), 2);
+            x.restore(0);
+            Check.due("ifCommitted at the server 0", x.ifCommitted(0), 5);
+            Check.due("recordedTimestamp", x.recordedTimestamp(0, 0), 0);
+            Check.due("recordedTimestamp", x.recordedTimestamp(0, 2), CommitWaitStore.NONE);
+            x.restore(1);
+            Check.due("ifCommitted at the server 1", x.ifCommitted(0), 105);
+            Check.due("recordedTimestamp", x.recordedTimestamp(0, 1), 0);
+            Check.due("recordedTimestamp", x.recordedTimestamp(0, 0), CommitWaitStore.NONE);
+            x.undo();
+            x.undo();
+            Check.due("ifCommitted at the server 2", x.ifCommitted(0), 205);
+            Check.due("recordedTimestamp", x.recordedTimestamp(0, 2), 0);
         });
         s.says("the read floor,", x -> {
             takenBack("snapshotRead", y -> y.snapshotRead(0, 40));
