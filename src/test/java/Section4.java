@@ -446,10 +446,14 @@ final class Section4 {
         s.says("Waiting transactions are examined at no other moments.", x -> {
             int t = Check.writer(x, 0, 0, 1);
             x.commit(t);
+            x.synchronize(0, 499);
+            Check.due("earliest(0) is past the timestamp", x.earliest(0), 494);
+            x.synchronize(0, 500);
             x.setUncertainty(0, 0, 0);
             x.setDrift(0, 100);
-            x.synchronize(0, 500);
+            x.setDrift(0, 99);
             Check.due("earliest(0) is past the timestamp", x.earliest(0), 500);
+            Check.argument("advance(0)", () -> x.advance(0));
             x.save(0);
             x.restore(0);
             x.commit(Check.reader(x, 1, 1));
@@ -528,6 +532,25 @@ final class Section4 {
                 Check.due("commitTime", y.commitTime(0), times[i]);
                 Check.due("unsoundUses() of a commit, offset " + offsets[i], y.unsoundUses(), due[i]);
             }
+        });
+        s.says("at that moment.", x -> {
+            // Unsound at the request and after one tick, and sound from 21 on; the commit comes at 22.
+            x.setUncertainty(0, 5, 100);
+            x.synchronize(0, 16);
+            Check.due("commit", x.commit(x.begin(0)), 21);
+            x.synchronize(0, 8);
+            x.advance(100);
+            Check.due("commitTime(0)", x.commitTime(0), 22);
+            Check.due("unsoundUses() of the request alone", x.unsoundUses(), 1);
+            // Sound after one tick, and unsound from 160 on; the commit comes at 161.
+            x.setUncertainty(1, 5, 0);
+            x.synchronize(1, 56);
+            Check.due("commit", x.commit(x.begin(1)), 161);
+            x.synchronize(1, 0);
+            x.setDrift(1, 100);
+            x.advance(100);
+            Check.due("commitTime(1)", x.commitTime(1), 161);
+            Check.due("unsoundUses() of the request and the commit", x.unsoundUses(), 3);
         });
         s.says("at that moment.", x -> {
             // Sound at the commit, at 10, and no more at the end of the call.
