@@ -280,6 +280,16 @@ final class Section7 {
             Check.due("commit of the transaction that has not written", x.commit(t), 6);
             Check.due("savedStates() after an acceptance", x.savedStates(), 5);
         });
+        // LOCKED is the result of a commit request: another answer that is -3 too is none of it.
+        s.says("or returns LOCKED.", x -> {
+            Check.due("synchronize(0, -3)", x.synchronize(0, -3), -3);
+            Check.due("savedStates() after synchronize", x.savedStates(), 1);
+            x.setDrift(1, -3);
+            Check.due("setDrift(1, 4)", x.setDrift(1, 4), -3);
+            Check.due("savedStates() after setDrift", x.savedStates(), 3);
+            Check.due("undo() of setDrift", x.undo(), 2);
+            Check.due("setDrift(1, -3), as before it", x.setDrift(1, -3), -3);
+        });
     }
 
     private static void changingNothing(Sentences s) {
